@@ -330,7 +330,7 @@ public final class HeelDance {
         if (n < 0 || n > LONGEST_ROW || what != 0 && what < ROW_FROM) {
             return BAD;
         }
-        search.overRows(now, n);
+        search.over(now, n, false);
         if (search.found == 0) {
             return NONE;
         }
@@ -344,7 +344,7 @@ public final class HeelDance {
         if (now.figures > LONGEST_ORDER) {
             return STATE;
         }
-        search.overOrders(now);
+        search.over(now, now.figures, true);
         if (what == 0) {
             return search.found;
         }
@@ -738,6 +738,7 @@ public final class HeelDance {
         final int[] heels = new int[MOST_MEN];
         final int[] heat = new int[MOST_MEN];
         final int[] partner = new int[MOST_MEN];
+        final int[] statures = new int[MOST_MEN];
         final int[] byRank = new int[MOST_MEN];
         final int[] rankOf = new int[MOST_MEN];
         int men;
@@ -790,6 +791,7 @@ public final class HeelDance {
 
         void lineUp() {
             for (int m = 0; m < men; m++) {
+                statures[m] = stature(m);
                 int r = m;
                 while (r > 0 && standsAhead(m, byRank[r - 1])) {
                     byRank[r] = byRank[r - 1];
@@ -804,7 +806,7 @@ public final class HeelDance {
 
         /** The lesser of two alike has been put in first, so he stays ahead. */
         private boolean standsAhead(int m, int other) {
-            int taller = stature(m) - stature(other);
+            int taller = statures[m] - statures[other];
             return taller < 0 || taller == 0 && heat[m] > heat[other];
         }
 
@@ -1008,17 +1010,9 @@ public final class HeelDance {
             }
         }
 
-        void overRows(Evening of, int n) {
-            byPlaces = false;
-            begin(of, n);
-        }
-
-        void overOrders(Evening of) {
-            byPlaces = true;
-            begin(of, of.figures);
-        }
-
-        private void begin(Evening of, int n) {
+        /** Over all rows of n FIGURES, or over the orders of THE PROGRAM's first n places. */
+        void over(Evening of, int n, boolean places) {
+            byPlaces = places;
             length = Math.min(n, LONGEST_ORDER);
             found = 0;
             most = NONE;
@@ -1099,6 +1093,7 @@ public final class HeelDance {
         private static final int NAME = 1;
         private static final int NUMBER = 2;
         private static final int SEMICOLON = 3;
+        private static final int NO_TOKEN = 4;
 
         private static final int COUSINS_LINE = 4;
         private static final int LINE_WORDS = 6;
@@ -1147,49 +1142,33 @@ public final class HeelDance {
                 next++;
             }
             start = next;
-            if (start >= length) {
-                token = END;
-                return true;
-            }
-            int c = bytes[start];
-            if (isLetter(c)) {
-                return advanceOverName();
-            }
-            if (isDigit(c)) {
-                return advanceOverNumber();
-            }
-            if (c != ';') {
+            token = tokenAt(start);
+            if (token == NO_TOKEN) {
                 return refuse(1, start);
             }
-            token = SEMICOLON;
-            next++;
-            return true;
-        }
-
-        private boolean advanceOverName() {
-            token = NAME;
-            while (next < length && isLetter(bytes[next])) {
+            if (token != END) {
                 next++;
             }
-            return true;
-        }
-
-        private boolean advanceOverNumber() {
-            token = NUMBER;
-            value = 0;
-            while (next < length && isDigit(bytes[next])) {
-                value = value * 10 + bytes[next] - '0';
+            boolean grows = token == NAME || token == NUMBER;
+            while (grows && next < length && tokenAt(next) == token) {
                 next++;
             }
-            return next - start <= 2 || refuse(1, start);
+            return token != NUMBER || next - start <= 2 || refuse(1, start);
         }
 
-        private static boolean isLetter(int c) {
-            return c >= 'a' && c <= 'z';
-        }
-
-        private static boolean isDigit(int c) {
-            return c >= '0' && c <= '9';
+        /** What a TOKEN is that begins with the byte at this place. */
+        private int tokenAt(int i) {
+            if (i >= length) {
+                return END;
+            }
+            int c = bytes[i];
+            if (c >= 'a' && c <= 'z') {
+                return NAME;
+            }
+            if (c >= '0' && c <= '9') {
+                return NUMBER;
+            }
+            return c == ';' ? SEMICOLON : NO_TOKEN;
         }
 
         private boolean oneLine() {
@@ -1266,6 +1245,10 @@ public final class HeelDance {
             }
             if (token != NUMBER) {
                 return refuse(2, start);
+            }
+            value = 0;
+            for (int i = start; i < next; i++) {
+                value = value * 10 + bytes[i] - '0';
             }
             return value <= bound || refuse(3, start);
         }

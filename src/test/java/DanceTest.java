@@ -18,6 +18,7 @@ public final class DanceTest {
         ahead();
         meetsAndNever();
         period();
+        fiveAndFewer();
         CHECK.close();
     }
 
@@ -128,6 +129,9 @@ public final class DanceTest {
         // behind mirror she is with man 0
         due("18 meetings", later.runs(2), 2);
         due("18 which", later.runs(1), 1);
+        HeelDance last = Check.told(STAIRS + "program up up;cousins 0 2;");
+        due("18 behind the last", last.runs(3), 2);
+        due("18 behind the last", last.runs(2), 1);
         HeelDance none = Check.told(STAIRS + "cousins 0 0;");
         due("18 no figures", none.runs(2), 0);
         due("18 no figures", none.runs(3), HeelDance.NONE);
@@ -158,6 +162,7 @@ public final class DanceTest {
     }
 
     private static void meetsAndNever() {
+        due("21 first asked", Check.told(STAIRS + "program up;").never(2), 2);
         HeelDance x = Check.told(STAIRS + "program up up down;");
         due("20 meets(0, 0)", x.meets(0, 0), 0);
         due("20 meets(0, 1)", x.meets(0, 1), 1);
@@ -176,6 +181,34 @@ public final class DanceTest {
         due("20 m", x.meets(0, -1), HeelDance.BAD);
         due("21 w", x.never(3), HeelDance.BAD);
         due("21 w", x.never(-1), HeelDance.BAD);
+    }
+
+    /** The most there may be, and then fewer: nothing of the others is left. */
+    private static void fiveAndFewer() {
+        HeelDance x = Check.told("plain 0 0;hearth 1 1;plain 4 3;hearth 6 1;hearth 6 2;cousins 4 4;program up down;");
+        due("18 five", x.runs(1), 31);
+        due("18 five", x.runs(2), 1);
+        due("18 five", x.runs(3), 2);
+        due("18 five", x.runs(4), 5);
+        due("19 five", x.ahead(4, 1), 0);
+        due("21 five", x.never(0), 28);
+        due("26 five", x.coins(31), 0);
+        due("28 five", x.mean(0, 0), 5);
+        due("31 five", x.bent(), 31);
+        due("33 five", x.shoes(1), 10);
+        due("17 five", x.dance(0), 0);
+        due("17 five", x.dance(1), 5);
+        due("41 five", x.count(4), 5);
+        due("41 five", x.count(5), 5);
+        due("7 five", x.man(4, 6), 4);
+        due("4 one", Check.tell(x, "plain 1 2;program mirror;"), 2);
+        due("18 one", x.runs(1), 1);
+        due("18 one", x.runs(2), 0);
+        due("18 one", x.runs(4), 1);
+        due("41 one", x.count(4), 2);
+        due("41 one", x.count(5), 0);
+        due("33 one", x.shoes(0), HeelDance.NONE);
+        due("6 one", x.rule(1), 0);
     }
 
     private static void period() {

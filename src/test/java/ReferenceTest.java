@@ -39,13 +39,14 @@ public final class ReferenceTest {
     private boolean run(List<Method> methods) throws ReflectiveOperationException {
         int budget = 512;
         budget -= tell(text(random.nextInt(8) != 0));
-        int changes = random.nextInt(4);
+        // heels and heat stay as told in some runs, or nearly all would be worn out
+        boolean undanced = random.nextInt(4) == 0;
         for (int i = 0; i < 120 && budget > 200; i++, budget--) {
             if (random.nextInt(60) == 0) {
                 budget -= tell(text(random.nextInt(3) != 0));
             }
             Method m = methods.get(random.nextInt(methods.size()));
-            if (changes == 0 && m.getName().equals("dance")) {
+            if (undanced && (m.getName().equals("dance") || m.getName().equals("read"))) {
                 continue;
             }
             if (!same(m, arguments(m))) {

@@ -14,6 +14,7 @@ public final class SeenTest {
         asItIs();
         otherwise();
         whoIsBent();
+        bothChange();
         CHECK.close();
     }
 
@@ -89,6 +90,18 @@ public final class SeenTest {
         due("32 not so now", x.heights(0), 0);
         due("33 not so now", x.shoes(0), HeelDance.NONE);
         due("33 not so now", x.shoes(1), 0);
+    }
+
+    private static void bothChange() {
+        // statures 4, 2, 3: man 2 is the middle one; of heels, man 0's alone
+        HeelDance x = Check.told("plain 0 4;plain 2 0;plain 3 0;program mirror;");
+        x.see(2, 1, 2);
+        due("33 shoes(0)", x.shoes(0), 1);
+        due("33 shoes(1)", x.shoes(1), 2);
+        x.forget(0);
+        x.see(1, 1, 1);
+        due("33 shoes(0)", x.shoes(0), 2);
+        due("33 shoes(1)", x.shoes(1), 1);
     }
 
     private static void whoIsBent() {

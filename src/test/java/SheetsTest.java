@@ -9,6 +9,7 @@ public final class SheetsTest {
 
     public static void main(String[] args) {
         images();
+        imagesOfTheSeen();
         sheet();
         lay();
         read();
@@ -69,6 +70,32 @@ public final class SheetsTest {
         nobody.plan(1);
         due("36 nobody", nobody.back(0), 0);
         due("36 nobody", nobody.rule(2), 0);
+    }
+
+    private static void imagesOfTheSeen() {
+        HeelDance x = Check.told("plain 0 4;plain 2 0;plain 9 0;program mirror;");
+        x.see(0, 1, 0);
+        x.keep(0);
+        int[][] others = {{0, 1, 1}, {1, 1, 0}, {0, 0, 0}, {2, 0, 1}};
+        for (int[] other : others) {
+            x.forget(0);
+            x.see(other[0], other[1], other[2]);
+            x.back(0);
+            due("36 as was seen", x.heights(0), 63);
+        }
+        x.forget(0);
+        x.see(1, 1, 2);
+        x.keep(1);
+        x.back(0);
+        x.forget(0);
+        x.see(2, 0, 0);
+        x.back(1);
+        due("36 as was seen", x.heights(1), 15);
+        x.swap(0, 1);
+        x.see(0, 0, 1);
+        x.back(0);
+        due("36 one alone", x.count(0), 1);
+        due("36 one alone", x.heights(0), 63);
     }
 
     private static void sheet() {

@@ -83,6 +83,8 @@ public final class TextTest {
     private static void textsThatAreTaken() {
         taken("", 0);
         taken("   ", 0);
+        taken(" ".repeat(160), 0);
+        taken(" ".repeat(152) + "program;", 1);
         taken("program;", 1);
         taken("  plain  1   2  ;  ", 1);
         taken("plain1 2;bent3 4;", 2);
@@ -104,6 +106,8 @@ public final class TextTest {
 
     private static void faults() {
         faulty("?", 0, 1);
+        faulty(" ".repeat(153) + "program", 160, 2);
+        faulty(" ".repeat(153) + "plain 1", 160, 2);
         faulty("  Plain 1 1;", 2, 1);
         faulty("plain 1 1,", 9, 1);
         faulty("plain\t1 1;", 5, 1);
@@ -114,6 +118,8 @@ public final class TextTest {
         faulty("up;", 0, 2);
         faulty("plai 1 1;", 0, 2);
         faulty("plainn 1 1;", 0, 2);
+        faulty("qlain 1 1;", 0, 2);
+        faulty("program xp;", 8, 2);
         faulty("1 1;", 0, 2);
         faulty(";", 0, 2);
         faulty("plain 1 1;;", 10, 2);
@@ -154,6 +160,8 @@ public final class TextTest {
         faulty("plain 10?", 6, 3);
         faulty("plain 1 ? 10", 8, 1);
         faulty("plain 1 1?", 9, 1);
+        faulty("plain ? 1;", 6, 1);
+        faulty("program up ? down;", 11, 1);
         faulty("program;program?", 8, 4);
         faulty("cousins 0 0;cousins 0 0?", 22, 4);
         faulty("plain 0 0;plain 0 0;plain 0 0;plain 0 0;plain 0 0;bent?", 50, 5);
@@ -168,6 +176,7 @@ public final class TextTest {
         x.dance(0);
         x.see(0, 1, 1);
         x.keep(1);
+        x.keep(0);
         due("4 faulty", Check.tell(x, "hearth 1 1;program up"), -31);
         due("5 faulty", x.fault(), 2);
         due("4 men stay", x.rule(0), 2);
@@ -176,7 +185,7 @@ public final class TextTest {
         due("4 danced stays", x.rule(3), 1);
         due("4 kind stays", x.man(0, 0), 0);
         due("4 seen stays", x.count(0), 1);
-        due("4 images stay", x.count(1), 1);
+        due("4 images stay", x.count(1), 2);
         x.sheet(0, 0, 7);
         due("4 taken", Check.tell(x, "hearth 1 2;"), 1);
         due("5 taken", x.fault(), 0);
