@@ -1,6 +1,8 @@
 /** What the tests of the document's boundary cases share: the sentence that is looked at, and the runs it is tried on. */
 final class Bounds {
     static final int BAD = HeelDance.BAD, STATE = HeelDance.STATE, FULL = HeelDance.FULL, NONE = HeelDance.NONE;
+    /** As many as there may be, of two WOMEN and three MEN; 72 bytes. */
+    static final String SIX_COUSINS = "cousins 0 0;cousins 0 1;cousins 0 2;cousins 1 0;cousins 1 1;cousins 1 2;";
     private static final String[] STAIRS = {"plain 0 0;", "plain 2 0;", "plain 4 0;", "plain 6 0;", "plain 8 0;"};
     private final Check check = new Check("BoundsTest");
     private final Doc doc;

@@ -1,6 +1,5 @@
 /** The boundary cases of 'Terms': THE TAPE, its TOKENS, lines and FAULTS. */
 final class BoundsOfTape {
-    private static final String SIX_COUSINS = "cousins 0 0;cousins 0 1;cousins 0 2;cousins 1 0;cousins 1 1;cousins 1 2;";
     private static final String EIGHT = "program up down waltz mirror up down waltz mirror";
 
     private final Bounds b;
@@ -148,8 +147,8 @@ final class BoundsOfTape {
         faulty("program;program ?", 8, 4);
         faulty("program up ?;", 11, 1);
         faulty(Bounds.stairs(5) + "bent ?", 50, 5);
-        faulty(SIX_COUSINS + "cousins 0 0;", 72, 5);
-        faulty(SIX_COUSINS + "cousins ?", 72, 5);
+        faulty(Bounds.SIX_COUSINS + "cousins 0 0;", 72, 5);
+        faulty(Bounds.SIX_COUSINS + "cousins ?", 72, 5);
         faulty(EIGHT + " ?", 50, 1);
         faulty(EIGHT + " up ?", 50, 5);
     }
@@ -231,8 +230,8 @@ final class BoundsOfTape {
         for (String kind : new String[] {"plain", "booted", "bent", "hearth"}) {
             faulty(Bounds.stairs(5) + kind + " 1 1;", 50, 5);
         }
-        taken(SIX_COUSINS + Bounds.stairs(3), 9);
-        faulty(SIX_COUSINS + Bounds.stairs(3) + " cousins 2 2;", 103, 5);
+        taken(Bounds.SIX_COUSINS + Bounds.stairs(3), 9);
+        faulty(Bounds.SIX_COUSINS + Bounds.stairs(3) + " cousins 2 2;", 103, 5);
 
         said("a 9th NAME behind program (it).");
         taken(EIGHT + ";", 1);

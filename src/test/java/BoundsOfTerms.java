@@ -12,7 +12,6 @@ final class BoundsOfTerms {
         "read(#, 0, 0, 1)", "read(0, #, 0, 1)", "read(0, 0, 0, #)", "count(#)"};
     /** Likewise, but the greatest int has another answer. */
     private static final String[] BELOW = {"best(2, #)", "orders(#)"};
-    private static final String SIX_COUSINS = "cousins 0 0;cousins 0 1;cousins 0 2;cousins 1 0;cousins 1 1;cousins 1 2;";
 
     private final Bounds b;
 
@@ -75,7 +74,7 @@ final class BoundsOfTerms {
         said("the first that fits;");
         b.nobody().asks("dance(4)", BAD).asks("drift(1, 61, 0)", BAD).asks("drift(1, 1, 2)", BAD).asks("back(2)", BAD)
             .asks("period(4)", BAD).asks("shoes(2)", BAD).asks("again(2)", BAD).asks("coins(1)", BAD);
-        Run six = b.told(Bounds.stairs(3) + SIX_COUSINS + "program up up up up up up;");
+        Run six = b.told(Bounds.stairs(3) + Bounds.SIX_COUSINS + "program up up up up up up;");
         six.asks("orders(2)", BAD).asks("coins(8)", BAD).asks("kin(3, 0, true)", BAD).asks("kin(0, 3, true)", BAD);
         // by each order there is a MEETING, and a place 9 there is not: NONE, if STATE were not ahead of it
         six.asks("orders(1)", STATE).asks("orders(10)", STATE).asks("orders(19)", STATE);
@@ -83,7 +82,7 @@ final class BoundsOfTerms {
         b.told(Bounds.stairs(2) + "program up up up up waltz;").makes("swap(0, 1)").asks("coins(1)", 1)
             .makes("cut(0)", "plan(2)").asks("coins(1)", NONE).makes("plan(2)", "plan(2)", "plan(2)", "plan(2)")
             .asks("coins(1)", NONE).makes("plan(2)").asks("coins(1)", STATE);
-        b.told(Bounds.stairs(3) + SIX_COUSINS).asks("best(5, 0)", BAD).asks("best(1, 9)", BAD).asks("best(1, 10)", NONE);
+        b.told(Bounds.stairs(3) + Bounds.SIX_COUSINS).asks("best(5, 0)", BAD).asks("best(1, 9)", BAD).asks("best(1, 10)", NONE);
         b.nobody().feeds(" ".repeat(160)).asks("feed(128)", BAD).asks("feed(-1)", BAD);
         b.told("program up up up up up up up up;").asks("plan(4)", BAD).asks("plan(-1)", BAD);
         b.told(Bounds.stairs(2)).makes("see(0, 0, 0)", "see(0, 0, 0)", "see(0, 0, 0)", "see(0, 0, 0)", "see(0, 0, 0)",
@@ -155,9 +154,9 @@ final class BoundsOfTerms {
     private void cousinsAndProgram() {
         said("COUSINS (6 at most): a WOMAN and a MAN.");
         // WOMAN 1 and MAN 2 are, WOMAN 2 and MAN 1 not
-        Run six = b.told(Bounds.stairs(3) + SIX_COUSINS);
+        Run six = b.told(Bounds.stairs(3) + Bounds.SIX_COUSINS);
         six.asks("rule(1)", 6).asks("cousins(0)", 7).asks("cousins(1)", 7).asks("cousins(2)", 0)
-            .asks("kin(2, 1, true)", FULL).faulty(Bounds.stairs(3) + SIX_COUSINS + "cousins 2 1;", 102, 5);
+            .asks("kin(2, 1, true)", FULL).faulty(Bounds.stairs(3) + Bounds.SIX_COUSINS + "cousins 2 1;", 102, 5);
 
         said("DANCED: how many FIGURES so far (0).");
         b.nobody().asks("rule(3)", 0);
