@@ -90,7 +90,7 @@ final class Run {
         return x;
     }
 
-    private static long answer(HeelDance x, String call) {
+    static long answer(HeelDance x, String call) {
         int open = call.indexOf('(');
         String inside = call.substring(open + 1, call.length() - 1);
         String[] words = inside.isEmpty() ? new String[0] : inside.split(", *");
