@@ -1227,12 +1227,13 @@ public final class HeelDance {
                 if (token == SEMICOLON) {
                     return true;
                 }
+                // the document counts NAMES here, so a 9th is too many whether or not it is an F
+                if (token == NAME && draft.figures >= MOST_FIGURES) {
+                    return refuse(5, start);
+                }
                 int f = token == NAME ? figureWord() : NONE;
                 if (f == NONE) {
                     return refuse(2, start);
-                }
-                if (draft.figures >= MOST_FIGURES) {
-                    return refuse(5, start);
                 }
                 draft.addFigure(f);
             }

@@ -237,6 +237,14 @@ final class BoundsOfTape {
         taken(EIGHT + ";", 1);
         faulty(EIGHT + " up;", 50, 5);
         faulty(EIGHT + " up up;", 50, 5);
+        // any NAME is one, also where it is no F; what is no NAME is none
+        for (String name : new String[] {"x", "jig", "upp", "plain", "program"}) {
+            faulty(EIGHT + " " + name, 50, 5);
+            faulty(EIGHT + " " + name + ";", 50, 5);
+        }
+        faulty(EIGHT + " 1;", 50, 2);
+        faulty(EIGHT, 49, 2);
+        faulty("program up down waltz mirror up down waltz jig up;", 43, 2);
     }
 
     private void strangers() {

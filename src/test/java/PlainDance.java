@@ -216,8 +216,8 @@ final class PlainDance {
                     if (programmed) throw new Faulty(4, tokenAt);
                     programmed = true;
                     for (String f = token(); !f.equals(";"); f = token()) {
+                        if (told.program.size() == 8 && f.matches("[a-z]+")) throw new Faulty(5, tokenAt);
                         if (!FIGURES.contains(f)) throw new Faulty(2, tokenAt);
-                        if (told.program.size() == 8) throw new Faulty(5, tokenAt);
                         told.program.add(FIGURES.indexOf(f));
                     }
                 } else {

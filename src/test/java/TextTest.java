@@ -166,9 +166,13 @@ public final class TextTest {
         faulty("cousins 0 0;cousins 0 0?", 22, 4);
         faulty("plain 0 0;plain 0 0;plain 0 0;plain 0 0;plain 0 0;bent?", 50, 5);
         faulty("cousins 0 0;tall", 12, 2);
-        // an eighth figure is taken ahead of what comes behind it
+        // an eighth figure is taken ahead of what comes behind it; a ninth name is too many, a figure's or not
         faulty("program up up up up up up up up 1;", 32, 2);
-        faulty("program up up up up up up up up jig;", 32, 2);
+        faulty("program up up up up up up up up", 31, 2);
+        faulty("program up up up up up up up up 123;", 32, 1);
+        faulty("program up up up up up up up up jig;", 32, 5);
+        faulty("program up up up up up up up up x", 32, 5);
+        faulty("program up up up up up up up jig up;", 29, 2);
     }
 
     private static void whatAFaultLeaves() {
